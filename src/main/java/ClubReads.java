@@ -404,10 +404,9 @@ public final class ClubReads {
 
     public int looked() {
         votes.collect(now.roll);
-        votes.countHands();
         for (int i = 0; i < votes.openCount; i++) {
             int book = votes.open[i];
-            if (book < now.handCount && now.hands[book] != votes.score[book]) {
+            if (book < now.handCount && now.hands[book] != votes.hands[book]) {
                 return book;
             }
         }
@@ -775,7 +774,7 @@ public final class ClubReads {
             return first * 10 + second;
         }
 
-        /** E, within so many open ! and ( ; & is joined as soon as its second F has come, | with its second T. */
+        /** E, within so many open ! and ( . A & joins as soon as its second F has come, a | with its second T. */
         private boolean parseAny(int open) {
             boolean joinsAll = false;
             boolean joinsAny = false;
@@ -1091,7 +1090,12 @@ public final class ClubReads {
         private int speakers = 0;
         /** The book that is first in the ORDER of the most members HERE. */
         int favourite = NO_BOOK;
-        final int[] score = new int[MOST];
+        /** Of the rows that count: hands, points and firsts of each book. */
+        final int[] hands = new int[MOST];
+        private final int[] points = new int[MOST];
+        private final int[] firsts = new int[MOST];
+        /** In how many more of these a book is ahead of another than behind it. */
+        private final int[][] leads = new int[MOST][MOST];
         /** The row of OPEN books that is tried. */
         final int[] tried = new int[MOST];
         private final int[] saidBefore = new int[MOST];
@@ -1107,15 +1111,26 @@ public final class ClubReads {
             for (int m = 0; m < hall.memberCount; m++) {
                 sortOpen(hall.likes[m], orders[m]);
             }
-            findFavourite();
-            speakers = 0;
+            favourite = findFavourite();
+            clearTallies();
             if (openCount == 0) {
                 return;
             }
             for (int m = 0; m < hall.memberCount; m++) {
                 if (roll.isHere(m) && !hall.members[m].staysAway(roll.month)) {
-                    speakers |= 1 << m;
                     hall.members[m].say(this, said[m]);
+                    hear(m);
+                }
+            }
+        }
+
+        /** All HERE say their ORDER, in place of what has been collected. */
+        void speakTrue() {
+            clearTallies();
+            for (int m = 0; m < hall.memberCount; m++) {
+                if (roll.isHere(m)) {
+                    putOrder(m, said[m]);
+                    hear(m);
                 }
             }
         }
@@ -1142,24 +1157,22 @@ public final class ClubReads {
             }
         }
 
-        private void findFavourite() {
-            clearScore();
-            if (openCount > 0) {
+        private int findFavourite() {
+            int best = NO_BOOK;
+            int most = -1;
+            for (int i = 0; i < openCount; i++) {
+                int count = 0;
                 for (int m = 0; m < hall.memberCount; m++) {
-                    if (roll.isHere(m)) {
-                        score[orders[m][0]]++;
+                    if (roll.isHere(m) && orders[m][0] == open[i]) {
+                        count++;
                     }
                 }
+                if (count > most) {
+                    most = count;
+                    best = open[i];
+                }
             }
-            favourite = mostScored(NO_BOOK);
-        }
-
-        /** All HERE say their ORDER. */
-        void speakTrue() {
-            speakers = roll.here;
-            for (int m = 0; m < hall.memberCount; m++) {
-                putOrder(m, said[m]);
-            }
+            return best;
         }
 
         boolean speaks(int m) {
@@ -1184,6 +1197,53 @@ public final class ClubReads {
             }
         }
 
+        private void clearTallies() {
+            speakers = 0;
+            for (int b = 0; b < MOST; b++) {
+                hands[b] = 0;
+                points[b] = 0;
+                firsts[b] = 0;
+                for (int other = 0; other < MOST; other++) {
+                    leads[b][other] = 0;
+                }
+            }
+        }
+
+        private void hear(int m) {
+            speakers |= 1 << m;
+            tally(said[m], 1);
+        }
+
+        /** Counts a row (by 1), or takes it back (by -1). */
+        private void tally(int[] row, int by) {
+            for (int k = 0; k < openCount; k++) {
+                int book = row[k];
+                points[book] += by * (openCount - 1 - k);
+                if (k == 0) {
+                    firsts[book] += by;
+                }
+                if (k < 2) {
+                    hands[book] += by;
+                }
+                for (int behind = k + 1; behind < openCount; behind++) {
+                    leads[book][row[behind]] += by;
+                    leads[row[behind]][book] -= by;
+                }
+            }
+        }
+
+        /** The OPEN book that has the most, but for one. */
+        private int mostOf(int[] counts, int but) {
+            int best = NO_BOOK;
+            for (int i = 0; i < openCount; i++) {
+                int book = open[i];
+                if (book != but && (best < 0 || counts[book] > counts[best])) {
+                    best = book;
+                }
+            }
+            return best;
+        }
+
         /** The book by the WAY; -5: none is OPEN. */
         int pick(int way) {
             if (openCount == 0) {
@@ -1191,13 +1251,11 @@ public final class ClubReads {
             }
             switch (way) {
                 case 0:
-                    countHands();
-                    return mostScored(NO_BOOK);
+                    return mostOf(hands, NO_BOOK);
                 case 1:
-                    return pickPoints();
+                    return mostOf(points, NO_BOOK);
                 case 2:
-                    countFirsts();
-                    return mostScored(NO_BOOK);
+                    return mostOf(firsts, NO_BOOK);
                 case 3:
                     return pickRounds();
                 case 4:
@@ -1207,64 +1265,13 @@ public final class ClubReads {
             }
         }
 
-        private void clearScore() {
-            for (int b = 0; b < MOST; b++) {
-                score[b] = 0;
-            }
-        }
-
-        /** The OPEN book with the most score, but for one. */
-        private int mostScored(int but) {
-            int best = NO_BOOK;
-            for (int i = 0; i < openCount; i++) {
-                int book = open[i];
-                if (book != but && (best == NO_BOOK || score[book] > score[best])) {
-                    best = book;
-                }
-            }
-            return best;
-        }
-
-        void countHands() {
-            countAhead(2);
-        }
-
-        private void countFirsts() {
-            countAhead(1);
-        }
-
-        private void countAhead(int places) {
-            clearScore();
-            int last = Math.min(places, openCount);
-            for (int m = 0; m < hall.memberCount; m++) {
-                if (speaks(m)) {
-                    for (int k = 0; k < last; k++) {
-                        score[said[m][k]]++;
-                    }
-                }
-            }
-        }
-
-        private int pickPoints() {
-            clearScore();
-            for (int m = 0; m < hall.memberCount; m++) {
-                if (speaks(m)) {
-                    for (int k = 0; k < openCount; k++) {
-                        score[said[m][k]] += openCount - 1 - k;
-                    }
-                }
-            }
-            return mostScored(NO_BOOK);
-        }
-
         private int pickRounds() {
-            countFirsts();
-            int one = mostScored(NO_BOOK);
-            int other = mostScored(one);
-            if (other == NO_BOOK) {
+            int one = mostOf(firsts, NO_BOOK);
+            int other = mostOf(firsts, one);
+            if (one < 0 || other < 0) {
                 return one;
             }
-            int lead = leadOf(one, other);
+            int lead = leads[one][other];
             if (lead == 0) {
                 return Math.min(one, other);
             }
@@ -1275,34 +1282,13 @@ public final class ClubReads {
             for (int i = 0; i < openCount; i++) {
                 boolean ahead = true;
                 for (int j = 0; j < openCount && ahead; j++) {
-                    ahead = j == i || leadOf(open[i], open[j]) > 0;
+                    ahead = j == i || leads[open[i]][open[j]] > 0;
                 }
                 if (ahead) {
                     return open[i];
                 }
             }
-            return pickPoints();
-        }
-
-        /** In how many orders more one book is ahead of the other than behind it. */
-        private int leadOf(int one, int other) {
-            int lead = 0;
-            for (int m = 0; m < hall.memberCount; m++) {
-                if (speaks(m)) {
-                    int first = firstOf(one, other, said[m]);
-                    lead += first == one ? 1 : -1;
-                }
-            }
-            return lead;
-        }
-
-        private int firstOf(int one, int other, int[] row) {
-            for (int k = 0; k < openCount; k++) {
-                if (row[k] == one || row[k] == other) {
-                    return row[k];
-                }
-            }
-            return NO_BOOK;
+            return mostOf(points, NO_BOOK);
         }
 
         private int pickTurns() {
@@ -1322,29 +1308,44 @@ public final class ClubReads {
             return open[0];
         }
 
-        /** The first book that is not the one CHOSEN (and one it likes more, if it gains) by an order told; -5: none. */
+        /** The first book but the one CHOSEN by an order told (if it gains, with more LIKE); -5: none. */
         int tellOtherwise(int m, int way, boolean gains) {
             int usual = pick(way);
-            if (usual == NO_BOOK) {
+            if (usual < 0) {
                 return NO_BOOK;
             }
-            int speakersBefore = speakers;
-            System.arraycopy(said[m], 0, saidBefore, 0, MOST);
+            boolean spoke = speaks(m);
+            silence(m);
             speakers |= 1 << m;
+            int[] likes = hall.likes[m];
             int found = NO_BOOK;
             boolean more = true;
             startRows();
             for (int r = 0; r < ROWS && more && found == NO_BOOK; r++) {
                 System.arraycopy(tried, 0, said[m], 0, MOST);
+                tally(tried, 1);
                 int book = pick(way);
-                if (gains ? hall.likes[m][book] > hall.likes[m][usual] : book != usual) {
+                tally(tried, -1);
+                if (book >= 0 && (gains ? likes[book] > likes[usual] : book != usual)) {
                     found = book;
                 }
                 more = nextRow();
             }
+            speakers &= ~(1 << m);
             System.arraycopy(saidBefore, 0, said[m], 0, MOST);
-            speakers = speakersBefore;
+            if (spoke) {
+                hear(m);
+            }
             return found;
+        }
+
+        /** Takes back what a member says, which is kept aside. */
+        private void silence(int m) {
+            System.arraycopy(said[m], 0, saidBefore, 0, MOST);
+            if (speaks(m)) {
+                speakers &= ~(1 << m);
+                tally(said[m], -1);
+            }
         }
 
         /** The first row of all OPEN books. */

@@ -228,6 +228,17 @@ public final class PromisesTest {
         test("s=3", true);
         test("s<3", false);
         test("s<33", true);
+        test("m<0", false);
+        test("m=1&m<0", false);
+        test("m>99", false);
+        test("m=99", false);
+        test("m<99", true);
+        test("k<0", false);
+        test("k>99", false);
+        test("s>99", false);
+        test("s<99", true);
+        test("p<6", true);
+        test("p<5", false);
         test("!m=1", false);
         test("!!m=1", true);
         test("!m=0&b=2", true);
@@ -439,6 +450,22 @@ public final class PromisesTest {
         row3(x, "FOLLOWING 2, by its ORDER", 4, 1, 0, 2);
         x.member(4, 5);
         row3(x, "FOLLOWING itself", 5, 1, 0, 2);
+        ClubReads u = Check.with("like 9 b=2&m=0");
+        u.member(0, 0);
+        u.member(4, 0);
+        for (int b = 0; b < 3; b++) {
+            u.book(0, 0, 0, 0);
+        }
+        row3(u, "FOLLOWING 0", 1, 2, 0, 1);
+        ClubReads t = Check.with("like 9 b=2&m=1");
+        t.member(4, 0);
+        t.member(4, 3);
+        t.member(0, 0);
+        for (int b = 0; b < 3; b++) {
+            t.book(0, 0, 0, 0);
+        }
+        row3(t, "FOLLOWING itself, 0", 0, 0, 1, 2);
+        row3(t, "FOLLOWING 3 of three", 1, 2, 1, 0);
 
         ClubReads y = Check.with("like 9 b=0&m<3;loath 99 m=5;come 0");
         y.member(5, 0);
@@ -542,6 +569,14 @@ public final class PromisesTest {
         due("a ring: first of 2", z.order(2, 0, 1), 0);
         due("a ring by pairs", z.chosen(4, 0), 0);
         due("a ring by rounds", z.chosen(3, 0), 0);
+        // 0, 1, 2: 1 0 2, 3, 4: 0 2 1: 1 is ahead of each by 3 to 2, 0 has more points (7, 6, 2).
+        ClubReads v = plain("like 9 m<3&b=1;like 5 m>2&b=0;like 1 m>2&b=2", 5, 3);
+        due("ahead of each by pairs", v.chosen(4, 0), 1);
+        due("by points", v.chosen(1, 0), 0);
+        // 0 1 2 and 1 2 0: 0 is even with both others, 1 has more points (2, 3, 1).
+        ClubReads u = plain("like 2 m=1&b=1;like 1 m=1&b=2", 2, 3);
+        due("even is not ahead", u.chosen(4, 0), 1);
+        due("rounds: 0 and 1, even", u.chosen(3, 0), 0);
         // 0: 1 0, 1: 0 1: a pair of which neither is ahead in more.
         ClubReads w = plain("like 1 m=0&b=1", 2, 2);
         due("even: by pairs as by points", w.chosen(4, 0), 0);
@@ -599,9 +634,10 @@ public final class PromisesTest {
         due("gain(-1, 0)", x.gain(-1, 0), -1);
         due("gain(0, 6)", x.gain(0, 6), -1);
         due("gain(0, -1)", x.gain(0, -1), -1);
-        for (int b = 3; b < 6; b++) {
-            x.book(0, 0, 0, 0);
-        }
+        x.book(0, 0, 0, 0);
+        x.book(0, 0, 0, 0);
+        due("gain of five books", x.gain(2, 2), 2);
+        x.book(0, 0, 0, 0);
         due("gain of six books", x.gain(0, 0), -9);
         due("gain of six books by no way", x.gain(0, 6), -1);
         // STRIKING its own best by turns: 1 0 2 comes first as a row with more LIKE.
@@ -668,6 +704,12 @@ public final class PromisesTest {
         y.book(0, 0, 0, 0);
         due("-10 by 20", y.reads(1, 0), 3);
         due("AWAY, half of 3", y.reads(2, 0), 1);
+        Check.club(y, "loath 10 m=1;loath 12 m=2");
+        due("40 by 20", y.reads(1, 0), 5);
+        due("AWAY: 38 by 20, half of 4", y.reads(2, 0), 2);
+        Check.club(y, "loath 12 m=1;read 1 m=2");
+        due("38 by 20", y.reads(1, 0), 4);
+        due("AWAY: half of 6", y.reads(2, 0), 3);
         Check.club(y, "read 20 m=2;loath 51 m=1");
         due("AWAY, half of 25 and then 10", y.reads(2, 0), 10);
         due("-1 by 20", y.reads(1, 0), 3);
@@ -846,6 +888,10 @@ public final class PromisesTest {
         due("all come", y.run(4, 0, 1), 16);
         y.had(3, true);
         due("had by hand counts", y.run(0, 0, 2), 1);
+        ClubReads z = plain("come 5", 6, 0);
+        z.book(0, 0, 0, 0);
+        z.book(0, 0, 0, 5);
+        due("of the first and the last", z.run(2, 0, 2), 2);
     }
 
     private static void best() {
@@ -990,6 +1036,7 @@ public final class PromisesTest {
         act(x, 5, 0, 15, 51, 1);
         act(x, 5, 1, -9, 21, 2, 51, 1);
         act(x, 5, 2, -18, 3, 21, 2, 51, 1);
+        due("not or", x.act(5, 0, 1), 3);
         due("wrapping", x.act(1, 0, MOST), MOST - 1);
         due("wrapping below", x.act(2, 2, LEAST), 4);
         ClubReads y = new ClubReads();
@@ -1075,6 +1122,14 @@ public final class PromisesTest {
         x.month(2);
         x.had(1, false);
         due("come", x.told(1), 6);
+        x.undo();
+        x.club();
+        Check.club(x, "read 4 m=1");
+        due("reads", x.reads(1, 0), 9);
+        x.member(5, 4);
+        x.book(9, 9, 3, 2);
+        x.hand(1);
+        x.month(0);
         due("undo()", x.undo(), 2);
         due("members", x.count(0), 2);
         due("books", x.count(1), 2);
@@ -1089,8 +1144,14 @@ public final class PromisesTest {
         due("glad", x.of(0, 2), 9);
         due("like", x.like(0, 0), 59);
         due("no third book", x.like(0, 2), FAR);
+        due("reads", x.reads(1, 0), 5);
         // The hands are 2 (one book for two members), 4 is told.
         due("looked()", x.looked(), 0);
+        x.hand(-1);
+        x.hand(2);
+        due("looked() at others", x.looked(), -5);
+        due("undo()", x.undo(), 2);
+        due("looked() again", x.looked(), 0);
         due("the tape is as it was", x.club(), 1);
         due("come then", x.told(1), 6);
         due("like then", x.like(0, 0), 50);
