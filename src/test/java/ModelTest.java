@@ -97,7 +97,7 @@ public final class ModelTest {
     private void spoil(StringBuilder text) {
         String signs = "mkbpos<=>&|!();0123456789 liketoahrdcm";
         int at = random.nextInt(text.length() + 1);
-        char sign = signs.charAt(random.nextInt(signs.length()));
+        char sign = random.nextInt(5) == 0 ? (char) random.nextInt(128) : signs.charAt(random.nextInt(signs.length()));
         if (at == text.length() || random.nextInt(3) == 0) {
             text.insert(at, sign);
         } else if (random.nextBoolean()) {

@@ -125,6 +125,10 @@ public final class PromisesTest {
         text("come ", -15);
         text("come x", -15);
         text("come  1", -15);
+        text("come /", -15);
+        text("come :", -15);
+        text("come 1/", -16);
+        text("come 1:", -16);
         text("come 1 ", -16);
         text("come 1 m=1", -16);
         text("come 1;", -17);
