@@ -677,6 +677,7 @@ public final class ClubReads {
         /** Where a clause's codes end; they begin where those of the clause ahead end. */
         private final int[] ends = new int[CLAUSES];
         private final int[] codes = new int[TAPE];
+        /** The tape while it is read; any row at first, to keep null out. */
         private int[] text = codes;
         private int size = 0;
 
