@@ -48,6 +48,23 @@ final class Check {
         return x.club();
     }
 
+    /** A new object with a club, members of KIND 0 and books without anything, BY 0. */
+    static ClubReads plain(String club, int members, int books) {
+        ClubReads x = with(club);
+        for (int i = 0; i < members; i++) {
+            x.member(0, 0);
+        }
+        addBooks(x, books);
+        return x;
+    }
+
+    /** Books without anything, BY 0. */
+    static void addBooks(ClubReads x, int books) {
+        for (int i = 0; i < books; i++) {
+            x.book(0, 0, 0, 0);
+        }
+    }
+
     /** A new object with a club. */
     static ClubReads with(String club) {
         ClubReads x = new ClubReads();

@@ -19,18 +19,37 @@ final class Grammar {
     static int fault(String text) {
         Set<Way> ways = spread(List.of(new Way("C", 0, 0)));
         for (int i = 0; i < text.length(); i++) {
-            List<Way> next = new ArrayList<>();
-            for (Way way : ways) {
-                if (!way.yet.isEmpty() && sign(way.yet.charAt(0)) == text.charAt(i)) {
-                    next.add(new Way(way.yet.substring(1), way.open, way.clauses));
-                }
-            }
-            ways = spread(next);
+            ways = spread(step(ways, text.charAt(i)));
             if (ways.isEmpty()) {
                 return i;
             }
         }
         return ways.stream().anyMatch(way -> way.yet.isEmpty()) ? -1 : text.length();
+    }
+
+    /** The signs with which a CLUB can go on behind a text, which is a CLUB's beginning. */
+    static Set<Character> next(String text) {
+        Set<Way> ways = spread(List.of(new Way("C", 0, 0)));
+        for (int i = 0; i < text.length(); i++) {
+            ways = spread(step(ways, text.charAt(i)));
+        }
+        Set<Character> signs = new LinkedHashSet<>();
+        for (Way way : ways) {
+            if (!way.yet.isEmpty()) {
+                signs.add(sign(way.yet.charAt(0)));
+            }
+        }
+        return signs;
+    }
+
+    private static List<Way> step(Set<Way> ways, char sign) {
+        List<Way> next = new ArrayList<>();
+        for (Way way : ways) {
+            if (!way.yet.isEmpty() && sign(way.yet.charAt(0)) == sign) {
+                next.add(new Way(way.yet.substring(1), way.open, way.clauses));
+            }
+        }
+        return next;
     }
 
     /** The rules' own letters are large; ! and ( that open something stand as ? and [ . */

@@ -51,16 +51,8 @@ public final class PromisesTest {
         CHECK.due(call, got, want);
     }
 
-    /** Members of KIND 0 and books without anything, BY 0. */
     private static ClubReads plain(String club, int members, int books) {
-        ClubReads x = Check.with(club);
-        for (int i = 0; i < members; i++) {
-            x.member(0, 0);
-        }
-        for (int i = 0; i < books; i++) {
-            x.book(0, 0, 0, 0);
-        }
-        return x;
+        return Check.plain(club, members, books);
     }
 
     private static void newObject() {
