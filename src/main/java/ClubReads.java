@@ -10,10 +10,11 @@ public final class ClubReads {
     private static final int LONGEST_ROW = 5, ROWS = 120, LONGEST_RUN = 6, MOST_HANDS = 12;
     private static final int TRACED = 20;
 
-    private final Hall now = new Hall();
+    private final Votes votes = new Votes();
+    /** Made by the votes over it, so that no constructor hands out a part of its own object. */
+    private final Hall now = votes.hall;
     private final Hall kept = new Hall();
     private final Roll trial = new Roll();
-    private final Votes votes = new Votes(now);
     /** At 0 how many bodies ran, behind it the first of their numbers. */
     private final int[] bodies = new int[1 + TRACED];
     private final long[] chances = new long[MOST + 1];
@@ -1081,8 +1082,8 @@ public final class ClubReads {
 
     /** The orders of all members at one time, and the WAYS over them. */
     private static final class Votes {
-        private final Hall hall;
-        private Roll roll;
+        final Hall hall = new Hall();
+        private Roll roll = hall.roll;
         final int[] open = new int[MOST];
         int openCount = 0;
         final int[][] orders = new int[MOST][MOST];
@@ -1100,11 +1101,6 @@ public final class ClubReads {
         /** The row of OPEN books that is tried. */
         final int[] tried = new int[MOST];
         private final int[] saidBefore = new int[MOST];
-
-        Votes(Hall hall) {
-            this.hall = hall;
-            this.roll = hall.roll;
-        }
 
         void collect(Roll then) {
             roll = then;

@@ -280,6 +280,10 @@ public final class EdgeActTest {
         bodies(x, 5, 0, 10, 1);
         bodies(x, 5, 1, 10, 61, 2, 1);
         bodies(x, 5, 2, 19, 31, 3, 61, 2, 1);
+        E.of(25, "STRIKING: ^ i, the bits that both have go");
+        E.due(x, 0, "act", 4, 0, 0);
+        E.due(x, 3, "act", 4, 0, 3);
+        E.due(x, -8, "act", 4, 0, -8);
         E.of(25, "who is gone acts as well, and nothing but THE TRACE changes");
         bodies(Scene.GONE.make(), 2, 1, 7, 2, 1);
         for (int part = 0; part < Look.PARTS; part++) {
@@ -424,6 +428,26 @@ public final class EdgeActTest {
             E.due(x, 0, "undo");
             E.untouched(Scene.EMPTY, part, x, "undo()");
         }
+        E.of(29, "THE IMAGE has THE TAPE's signs and the numbers of HANDS");
+        ClubReads y = Check.plain("come 5", 2, 3);
+        Check.feed(y, "come 8");
+        y.hand(2);
+        y.hand(2);
+        y.hand(0);
+        y.image();
+        E.due(y, 1, "club");
+        Check.feed(y, "loath 9 m=1;come 7");
+        y.hand(-1);
+        for (int n = 3; n < 9; n++) {
+            y.hand(n);
+        }
+        E.due(y, 2, "undo");
+        E.due(y, 6, "count", 4);
+        E.due(y, 3, "count", 3);
+        E.due(y, FEWER, "looked");
+        E.due(y, 5, "told", 1);
+        E.due(y, 1, "club");
+        E.due(y, 8, "told", 1);
         E.of(29, "THE IMAGE stays: undo goes back to it again");
         ClubReads x = Scene.SOME.make();
         for (int i = 0; i < 3; i++) {
@@ -456,7 +480,7 @@ public final class EdgeActTest {
     private static void undoAll() {
         E.of(29, "All is as THE IMAGE, from each scene and whatever comes behind it");
         for (Scene scene : Scene.values()) {
-            for (int part = 0; part < 2; part++) {
+            for (int part : new int[] {0, 1, 3}) {
                 ClubReads x = scene.make();
                 x.image();
                 x.hand(-1);

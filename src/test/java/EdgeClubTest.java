@@ -20,9 +20,11 @@ public final class EdgeClubTest {
         faults();
         faultOfEachSign();
         clubHolds();
+        faultLeavesNothing();
         clubFull();
         come();
         tests();
+        joined();
         member();
         memberFull();
         newcomer();
@@ -370,6 +372,23 @@ public final class EdgeClubTest {
         E.due(x, 1, "feed", 'c');
     }
 
+    private static void faultLeavesNothing() {
+        E.of(3, "FAULT: nothing of that text is left in the next CLUB");
+        ClubReads x = new ClubReads();
+        x.member(0, 0);
+        x.book(0, 0, 0, 0);
+        String tests = "m=0" + "&m=0".repeat(20);
+        for (int i = 0; i < 3; i++) {
+            E.due("club()", Check.club(x, "come 9;like 9 " + tests + "x"), -10 - 97);
+        }
+        E.due("club()", Check.club(x, "like 7 m=1"), 0);
+        E.due(x, 50, "like", 0, 0);
+        E.due(x, 5, "told", 1);
+        E.due("club()", Check.club(x, "like 9 m=0;like 9 m=0;"), -10 - 22);
+        E.due("club()", Check.club(x, "like 1 m=1;like 2 m=0"), 1);
+        E.due(x, 52, "like", 0, 0);
+    }
+
     private static void clubFull() {
         E.of(3, "CLUBS are numbered from 0 on, 5 at most");
         ClubReads x = new ClubReads();
@@ -433,6 +452,44 @@ public final class EdgeClubTest {
         }
         x.had(5, true);
         E.due(x, 62, "like", 0, 5);
+    }
+
+    private static void joined(String e, boolean holds) {
+        E.due("like 7 " + e, likeBy("like 7 " + e), holds ? 57 : 50);
+    }
+
+    private static void joined() {
+        E.of(3, "F: !F, (E); a ! is of its F alone");
+        joined("!m=2", false);
+        joined("!m=1", true);
+        joined("!!m=2", true);
+        joined("!!!!!m=2", false);
+        joined("(((((m=2)))))", true);
+        joined("!((!(m=2)))", true);
+        joined("!m<0", true);
+        joined("!m=1&m=1", false);
+        joined("!(m=1&m=1)", true);
+        joined("!m=2|m=2", true);
+        joined("!(m=2|m=2)", false);
+        E.of(3, "E: T, or T|E. T: F, or F&T: & joins ahead of |");
+        joined("m=2&m<0", false);
+        joined("m=2|m<0", true);
+        joined("m<0|m=2", true);
+        joined("m<0&m=2", false);
+        joined("m=2|m=1&m=1", true);
+        joined("(m=2|m=1)&m=1", false);
+        joined("m=1&m=1|m=2", true);
+        joined("m=1&(m=1|m=2)", false);
+        joined("m=2&(m<0|m=2)", true);
+        joined("m=2&(b=3)", true);
+        joined("m=2&(b=1|b=3)&o=7", true);
+        joined("m=2&(b=1|b=3)&o=6", false);
+        joined("m=1|(b=3&(o=7|s=0))", true);
+        joined("m=1|(b=3&!(o=7|s=0))", false);
+        joined("m=2" + "&m=2".repeat(20), true);
+        joined("m=2" + "&m=2".repeat(19) + "&m=1", false);
+        joined("m=1" + "|m=1".repeat(20), false);
+        joined("m=1" + "|m=1".repeat(19) + "|m=2", true);
     }
 
     private static int likeBy(String club) {

@@ -255,6 +255,13 @@ public final class EdgeMonthTest {
         part(y, 0, 1, 1, 2);
         part(y, 1, 0, 1, 1);
         part(y, 1, 2, 0, 1);
+        E.of(17, "six members and then five: what was asked before does not count");
+        ClubReads six = Check.plain("loath 51 m=0;come 0", 6, 1);
+        part(six, 0, 6, 1, 32);
+        six.month(0);
+        E.due(six, 62, "told", 2);
+        part(six, 0, 6, 0, 1);
+        part(six, 0, 5, 1, 32);
         E.of(17, "AWAY reads by its odds in any MONTH, come whatever");
         ClubReads z = Check.with("come 99");
         z.member(6, 0);

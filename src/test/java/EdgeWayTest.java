@@ -36,6 +36,7 @@ public final class EdgeWayTest {
         gainRefused();
         gainOfFew();
         gainMore();
+        askedBefore();
         asking();
         E.end(10, 14);
     }
@@ -466,6 +467,10 @@ public final class EdgeWayTest {
         String ahead = "like 9 m<3&b=1;like 9 m>2&b=0;like 5 m>2&b=2";
         E.due(Check.plain(ahead, 5, 3), 1, "chosen", 4, 0);
         E.due(Check.plain(ahead, 5, 3), 0, "chosen", 1, 0);
+        // 0 1 2 three times, 1 2 0 twice: 0 is ahead by 3 to 2, 1 has 7 points to 6.
+        String first = "like 9 m>2&b=1;like 5 m>2&b=2";
+        E.due(Check.plain(first, 5, 3), 0, "chosen", 4, 0);
+        E.due(Check.plain(first, 5, 3), 1, "chosen", 1, 0);
         E.of(12, "PAIRS: as often ahead as behind is not ahead; without one as POINTS");
         // The sixth likes 0 2 1 as well: 3 to 3.
         E.due(Check.plain(ahead, 6, 3), 0, "chosen", 4, 0);
@@ -705,6 +710,14 @@ public final class EdgeWayTest {
         E.due(z, 1, "gain", 0, 5);
         z.had(1, true);
         E.due(z, 2, "gain", 0, 5);
+        E.of(14, "some order: the last row of all, 4 3 2 1 0, alone makes 4 be CHOSEN");
+        // 0 says 0 1 2 4 3; with the points of 1 they are 4 4 4 3 5.
+        ClubReads v = Check.with("loath 9 m=0&b>2;loath 5 m=0&b=3;like 9 m=1&b=4");
+        v.member(0, 0);
+        v.member(6, 0);
+        Check.addBooks(v, 5);
+        E.due(v, 0, "chosen", 1, 0);
+        E.due(v, 4, "gain", 1, 1);
         E.of(14, "who says nothing may gain");
         ClubReads w = Check.with("like 9 m=0&b=1;like 9 m=1&b=2");
         w.member(6, 0);
@@ -715,6 +728,24 @@ public final class EdgeWayTest {
         E.due(w, FEWER, "gain", 0, 5);
         E.due(w, 2, "order", 1, 0, 0);
         E.due(w, FEWER, "gain", 1, 5);
+    }
+
+    private static void askedBefore() {
+        E.of(12, "what was asked under another CLUB does not count");
+        for (int turn = 0; turn < 2; turn++) {
+            ClubReads x = Check.plain("like 9 b=" + (turn == 0 ? 2 : 0), 4, 3);
+            for (int i = 0; i < 10; i++) {
+                for (int way = 0; way < 6; way++) {
+                    x.chosen(way, i % 2);
+                }
+            }
+            int book = turn == 0 ? 0 : 2;
+            Check.club(x, "like 9 b=" + book + "&m<3;like 9 b=" + (2 - book) + "&m=3");
+            for (int way = 1; way < 6; way++) {
+                E.due(x, book, "chosen", way, 0);
+                E.due(x, book, "chosen", way, 1);
+            }
+        }
     }
 
     private static void asking() {
