@@ -5,7 +5,7 @@ import java.util.Map;
 import java.util.Set;
 import java.util.TreeSet;
 
-/** Checks of edges, each under the promise and the words of the document that it is of. */
+/** Checks, most of them of edges, each under the promise and the words of the document that it is of. */
 final class Edge {
     static final int NONE = -1, BAD = -2, STATE = -3, FULL = -4, FEWER = -5, OTHER = -6, MANY = -9;
     static final int FAR_NONE = -10001, FAR_BAD = -10002;
@@ -23,8 +23,9 @@ final class Edge {
     }
 
     private final Check check;
-    private final Set<Integer> named = new TreeSet<>();
+    private final Set<Integer> asked = new TreeSet<>();
     private final Map<String, String> looks = new HashMap<>();
+    private int promise = 0;
     private String heading = "";
 
     Edge(String name) {
@@ -33,17 +34,18 @@ final class Edge {
 
     /** What comes behind this is of that promise's words. */
     void of(int promise, String words) {
-        named.add(promise);
+        this.promise = promise;
         heading = "Promise " + promise + " (" + words + "): ";
     }
 
     void due(String call, long got, long want) {
+        asked.add(promise);
         check.due(heading + call, got, want);
     }
 
     /** The call, whose numbers stand for false (0) and true where it takes a boolean, answers so. */
     void due(ClubReads x, long want, String name, int... values) {
-        check.due(heading + text(name, values), ask(x, name, values), want);
+        due(text(name, values), ask(x, name, values), want);
     }
 
     /** The call answers so in that scene, and all is then as it is without the call. */
@@ -61,10 +63,10 @@ final class Edge {
         check.holds(heading + scene + " is as before, behind " + behind, before.equals(Look.at(x, part)));
     }
 
-    /** Each promise from one to another has been named. */
+    /** Something has been asked under each promise from one to another. */
     void end(int from, int to) {
-        for (int promise = from; promise <= to; promise++) {
-            check.holds("there are edges of promise " + promise, named.contains(promise));
+        for (int number = from; number <= to; number++) {
+            check.holds("there is a test of promise " + number, asked.contains(number));
         }
         check.end();
     }

@@ -1,6 +1,6 @@
-/** For each promise of the document what it asks, worked out by hand. */
+/** For each promise of the document, by its number, what it asks, worked out by hand. */
 public final class PromisesTest {
-    private static final Check CHECK = new Check("PromisesTest");
+    private static final Edge PROMISE = new Edge("PromisesTest");
     private static final int FAR = -10001;
     private static final int LEAST = Integer.MIN_VALUE;
     private static final int MOST = Integer.MAX_VALUE;
@@ -9,46 +9,96 @@ public final class PromisesTest {
     private static final String VOTE = "like 1 m>1&b>0;like 1 m=2&b=1;like 1 m>2&b=2";
 
     public static void main(String[] args) {
+        clubsMembersBooks();
+        likesOrdersWays();
+        readingMonths();
+        hands();
+        actsTheImage();
+        PROMISE.end(1, 30);
+    }
+
+    private static void clubsMembersBooks() {
+        PROMISE.of(1, "A new object");
         newObject();
+        PROMISE.of(2, "feed");
         feed();
+        PROMISE.of(3, "club");
         clubTexts();
         clubState();
         clubTests();
+        PROMISE.of(4, "member");
         member();
+        PROMISE.of(5, "book");
         book();
+        PROMISE.of(6, "of");
         of();
+        PROMISE.of(7, "at");
         at();
+        PROMISE.of(8, "told");
         told();
+        PROMISE.of(9, "had");
         had();
+    }
+
+    private static void likesOrdersWays() {
+        PROMISE.of(10, "like");
         like();
+        PROMISE.of(11, "order");
         order();
         says();
+        PROMISE.of(12, "chosen");
         chosen();
         chosenEdges();
+        PROMISE.of(13, "alone");
         alone();
+        PROMISE.of(14, "gain");
         gain();
+    }
+
+    private static void readingMonths() {
+        PROMISE.of(15, "reads");
         reads();
+        PROMISE.of(16, "comes");
         comes();
+        PROMISE.of(17, "enough");
         enough();
+        PROMISE.of(18, "month");
         month();
         monthLimit();
+        PROMISE.of(19, "by");
         by();
+        PROMISE.of(20, "run");
         run();
+        PROMISE.of(21, "best");
         best();
+        PROMISE.of(22, "row");
         row();
+    }
+
+    private static void hands() {
+        PROMISE.of(23, "hand");
         hand();
+        PROMISE.of(24, "looked");
         looked();
+    }
+
+    private static void actsTheImage() {
+        PROMISE.of(25, "act");
         act();
+        PROMISE.of(26, "trace");
         trace();
+        PROMISE.of(27, "as");
         as();
+        PROMISE.of(28, "image");
         image();
+        PROMISE.of(29, "undo");
         undo();
+        PROMISE.of(30, "count");
         count();
-        CHECK.end();
     }
 
     private static void due(String call, long got, long want) {
-        CHECK.due(call, got, want);
+        PROMISE.due(call, got, want);
     }
 
     private static ClubReads plain(String club, int members, int books) {
